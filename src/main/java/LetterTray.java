@@ -689,7 +689,7 @@ public final class LetterTray {
         }
 
         private void pass(char sign) {
-            if (stands(sign)) {
+            if (at < length && text[at] == sign) {
                 at++;
             } else {
                 fail(MISPLACED, at);
@@ -770,13 +770,12 @@ public final class LetterTray {
             }
             kinds[count] = kind;
             lengths[count] = length;
-            count++;
-            for (int w = 0; w < count - 1; w++) {
-                if (lengths[w] == length && samePlaces(w, count - 1) == length) {
-                    count--;
+            for (int w = 0; w < count; w++) {
+                if (lengths[w] == length && samePlaces(w, count) == length) {
                     return false;
                 }
             }
+            count++;
             return true;
         }
 
@@ -845,8 +844,7 @@ public final class LetterTray {
 
         private int samePlaces(int w, int u) {
             int same = 0;
-            int both = Math.min(lengths[w], lengths[u]);
-            for (int k = 0; k < both; k++) {
+            for (int k = 0; k < lengths[w] && k < lengths[u]; k++) {
                 if (spelling[w * MOST_SPELT + k] == spelling[u * MOST_SPELT + k]) {
                     same++;
                 }

@@ -12,6 +12,7 @@ public final class DeedsTest {
         promise15Each();
         promise16();
         promise16Kept();
+        turnsFull();
         Check.close();
     }
 
@@ -248,5 +249,32 @@ public final class DeedsTest {
         Check.due("told(17) of drifts", x.told(17), 30);
         Check.due("undo(30)", x.undo(30) >= 0 ? 1 : 0, 1);
         Check.due("told(17)", x.told(17), 0);
+    }
+
+    /** No object that keeps to its 512 calls comes so far; the document tells it all the same. */
+    private static void turnsFull() {
+        LetterTray x = Check.game(Check.VALUES + "baaa;w0a;w0b;", 2);
+        x.draw();
+        x.draw();
+        x.lay(0);
+        while (x.told(7) < 89999 && x.change(0) == 0) {
+            x.told(7);
+        }
+        Check.due("TURNS", x.told(7), 89999);
+        Check.due("change(0) at 89999", x.change(0), 0);
+        Check.due("TURNS", x.told(7), 90000);
+        Check.due("draw() at 90000", x.draw(), Check.FULL);
+        Check.due("give(0) at 90000", x.give(0), Check.FULL);
+        Check.due("give(1) at 90000", x.give(1), Check.NOT);
+        Check.due("change(0) at 90000", x.change(0), Check.FULL);
+        Check.due("lay(0) at 90000", x.lay(0), Check.FULL);
+        Check.due("lay(1) at 90000", x.lay(1), Check.NOT);
+        Check.due("take(0) at 90000", x.take(0), Check.FULL);
+        Check.due("take(1) at 90000", x.take(1), Check.UNKNOWN);
+        Check.due("drift(1) at 90000", x.drift(1), Check.FULL);
+        Check.due("drift(0) at 90000", x.drift(0), Check.OUTSIDE);
+        Check.due("undo(1) at 90000", x.undo(1), 1);
+        Check.due("draw() at 89999", x.draw(), 0);
+        Check.due("draw() at 90000, of an empty bag", x.draw(), Check.NOT);
     }
 }
