@@ -40,6 +40,8 @@ public final class FaceTest {
             if (!Modifier.isPrivate(method.getModifiers())) {
                 open.add(method.getName() + "/" + method.getParameterCount());
                 Check.due(method.getName() + " answers an int", method.getReturnType() == int.class ? 1 : 0, 1);
+            } else {
+                Check.due(method.getName() + " has a name of its own", (" " + METHODS).contains(" " + method.getName() + "/") ? 1 : 0, 0);
             }
             Check.due(method.getName() + " takes at most seven", method.getParameterCount() <= 7 ? 1 : 0, 1);
         }

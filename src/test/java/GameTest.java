@@ -8,6 +8,7 @@ public final class GameTest {
         promise3Spaces();
         promise3Ends();
         promise3Again();
+        promise3Longest();
         promise4();
         promise5();
         promise6();
@@ -172,6 +173,25 @@ public final class GameTest {
         fault(Check.VALUES + "w0ab;w1ab*", 1, end + 9);
         fault(Check.VALUES + "w0ab;w1ab", 1, end + 9);
         Check.game(Check.VALUES + "w0ab;w0ba;w0a;w0abb;", 4);
+    }
+
+    /** Texts of 240 letters, and short ones behind them: what was fed earlier is gone. */
+    private static void promise3Longest() {
+        String words = Check.VALUES + "w0ab;";
+        LetterTray x = Check.game(words + " ".repeat(240 - words.length()), 1);
+        Check.due("told(2)", x.told(2), 0);
+        fault(words + " ".repeat(235 - words.length()) + "w0 ba", 1, 240);
+        fault(words + " ".repeat(238 - words.length()) + "w0", 1, 240);
+        fault(words + " ".repeat(239 - words.length()) + "w", 1, 240);
+        Check.game(words + " ".repeat(235 - words.length()) + "w0ba;", 2);
+        x = Check.game(words + "w0ba;", 2);
+        Check.feed(x, Check.VALUES + "w0a");
+        Check.due("game(): the ';' of the earlier text is gone", x.game(), -11);
+        Check.due("fault()", x.fault(), Check.VALUES.length() + 3);
+        Check.feed(x, Check.VALUES.substring(0, 16));
+        Check.due("game(): the ';' of the earlier text is gone", x.game(), -11);
+        Check.due("fault()", x.fault(), 16);
+        Check.due("told(1)", x.told(1), 2);
     }
 
     /** A fault changes nothing but the text; a game makes all anew but the seed. */
