@@ -11,8 +11,14 @@ final class Check {
 
     private static int right = 0;
     private static int wrong = 0;
+    private static String sentence = "";
 
     private Check() {
+    }
+
+    /** The sentence of the document that the checks behind it hold to: it is told with each that fails. */
+    static void promise(int number, String words) {
+        sentence = "Promise " + number + ", '" + words + "': ";
     }
 
     static void due(String call, long got, long want) {
@@ -20,7 +26,7 @@ final class Check {
             right++;
         } else {
             wrong++;
-            System.out.println(call + " answered " + got + ", due is " + want);
+            System.out.println(sentence + call + " answered " + got + ", due is " + want);
         }
     }
 
