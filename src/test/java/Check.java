@@ -1,3 +1,6 @@
+import java.util.Set;
+import java.util.TreeSet;
+
 /** Counts what was due and did not come; every test ends by close(). */
 final class Check {
     static final int NONE = LetterTray.NONE;
@@ -12,12 +15,14 @@ final class Check {
     private static int right = 0;
     private static int wrong = 0;
     private static String sentence = "";
+    private static final Set<Integer> promises = new TreeSet<>();
 
     private Check() {
     }
 
     /** The sentence of the document that the checks behind it hold to: it is told with each that fails. */
     static void promise(int number, String words) {
+        promises.add(number);
         sentence = "Promise " + number + ", '" + words + "': ";
     }
 
@@ -54,7 +59,8 @@ final class Check {
     }
 
     static void close() {
-        System.out.println(right + " answers as due, " + wrong + " not");
+        String held = promises.isEmpty() ? "" : "promises " + promises + ": ";
+        System.out.println(held + right + " answers as due, " + wrong + " not");
         if (wrong != 0) {
             System.exit(1);
         }

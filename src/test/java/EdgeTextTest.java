@@ -32,6 +32,7 @@ public final class EdgeTextTest {
         promise3EmptyThen();
         promise3AsItWas();
         promise3Anew();
+        promise3AnewTried();
         promise3AnewOfNothing();
         promise3HowManyWords();
         promise4None();
@@ -246,6 +247,15 @@ public final class EdgeTextTest {
         faulty(V + "ba;w0a;bb;", 3, END + 7);
         faulty(V + "ba; b", 3, END + 4);
         taken(V + "w0a;ba;w0b;", 2);
+        Check.promise(3, "'v', 'b' again: in this text, whatever earlier ones had");
+        LetterTray x = new LetterTray();
+        String[] texts = {V + "ba;", V + "baa;", V + "baaa;", V + "baaaa;x", V + "baaaaa;", V + "ba;"};
+        int[] bags = {1, 2, 3, 3, 5, 1};
+        for (int i = 0; i < texts.length; i++) {
+            Games.feed(x, texts[i]);
+            Check.due("game() of " + texts[i], x.game(), i == 3 ? -11 : 0);
+            Check.due("THE BAG of " + texts[i], x.told(3), bags[i]);
+        }
     }
 
     private static void promise3Bag() {
@@ -516,6 +526,25 @@ public final class EdgeTextTest {
         Check.due("goBack(1)", x.goBack(1), Check.NOT);
         Check.due("undo(1)", x.undo(1), Check.NOT);
         Whole.alike("the same game again", () -> richThen(Games.TEN), () -> withSeed(Games.told(Games.TEN), seed));
+    }
+
+    /** What was tried in the earlier game, with the same tray, is not told of the next one. */
+    private static void promise3AnewTried() {
+        Check.promise(3, "THE TEXT becomes THE GAME: what is TRIED is tried with its WORDS");
+        LetterTray x = Games.tray("aab", "w0a;w0b;");
+        Check.due("ALL", x.told(10), 1);
+        Check.due("MOST", x.told(11), 5);
+        Games.feed(x, V + "baab;w1ab;w0a;w0aa;");
+        Check.due("game()", x.game(), 3);
+        for (int i = 0; i < 3; i++) {
+            x.draw();
+        }
+        Check.due("MOST", x.told(11), 9);
+        Check.due("MANY", x.told(12), 2);
+        Check.due("ALL", x.told(10), 1);
+        Check.due("first(1)", x.first(1), 1);
+        Check.due("CAN", x.told(8), 7);
+        Check.due("BEST", x.told(9), 0);
     }
 
     private static void promise3AnewOfNothing() {

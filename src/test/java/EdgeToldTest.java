@@ -19,6 +19,7 @@ public final class EdgeToldTest {
         promise5Can();
         promise5Best();
         promise5All();
+        promise5FromNow();
         promise5MostMany();
         promise5Unused();
         promise5Farthest();
@@ -139,6 +140,35 @@ public final class EdgeToldTest {
         Check.due("twelve blanks, ten words", Games.tray("************", TEN_ONES).told(10), 117326);
         LetterTray x = Games.laid(Games.tray("aaaaaaaaa", "w0a;"), 0, 8);
         Check.due("no room on the table", x.told(10), 1);
+        x = Games.tray("aabbccdefgh*", "w0a;w0b;w0c;w0d;w0e;w0f;w0g;w0h;w0gh;w0ggg;");
+        Check.due("a tray of as many sorts as can be", x.told(10), 16);
+        Check.due("its MOST", x.told(11), 36);
+    }
+
+    /** A deed between, and what is tried is another thing; asked before or not. */
+    private static void promise5FromNow() {
+        Check.promise(5, "TRIED from now");
+        LetterTray x = Games.tray("aabb", "w0ab;w0a;w0b;");
+        int[] all = {3, 2, 1, 1};
+        for (int i = 0; i < all.length; i++) {
+            Check.due("ALL", x.told(10), all[i]);
+            Check.due("MOST", x.told(11), new int[] {8, 4, 1, 0}[i]);
+            Check.due("first(0)", x.first(0), new int[] {0, 0, 1, Check.NONE}[i]);
+            x.lay(new int[] {0, 2, 1, 0}[i]);
+        }
+        Whole.alike("asked between deeds", () -> driftAsking(true), () -> driftAsking(false));
+    }
+
+    private static LetterTray driftAsking(boolean asking) {
+        LetterTray x = Games.rich("");
+        for (int i = 0; i < 15; i++) {
+            x.drift(1);
+            for (int what = 8; asking && what <= 12; what++) {
+                x.told(what);
+            }
+        }
+        x.undo(3);
+        return x;
     }
 
     private static void promise5MostMany() {

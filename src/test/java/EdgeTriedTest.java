@@ -206,6 +206,12 @@ public final class EdgeTriedTest {
         Check.due("two ways: word 0", x.ladder(2, 3, 1), 0);
         Check.due("one step: the last", x.ladder(2, 0, 1), 0);
         Check.due("one step", x.ladder(0, 3, 1), 3);
+        x = Games.told(V + "w0cb;w0ab;w0cd;");
+        Check.due("by word 0 alone", x.ladder(1, 2, 0), 2);
+        Check.due("by word 0 alone", x.ladder(1, 2, 1), 0);
+        x = Games.told(V + "w0ab;w0cd;w0aaaa;w0aaab;w0aabb;w0abbb;w0bbbb;w0hhhhhh;w0ghhhhh;w0cb;");
+        Check.due("by word 9 alone", x.ladder(0, 1, 0), 2);
+        Check.due("by word 9 alone", x.ladder(0, 1, 1), 9);
         Check.promise(19, "the fewest STEPS: not by one that is less, but farther");
         x = Games.told(V + "w0ac;w0aa;w0bb;w0ab;");
         Check.due("ladder(1, 2, 0)", x.ladder(1, 2, 0), 2);
