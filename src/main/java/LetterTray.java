@@ -665,10 +665,10 @@ public final class LetterTray {
         }
 
         private void endLetters(int count) {
-            if (count == 0) {
+            if (count == 0 || !stands(';')) {
                 fail(MISPLACED, at);
             }
-            pass(';');
+            at++;
         }
 
         private int readNumber(int least, int most) {
@@ -689,11 +689,10 @@ public final class LetterTray {
         }
 
         private void pass(char sign) {
-            if (at < length && text[at] == sign) {
-                at++;
-            } else {
+            if (!stands(sign)) {
                 fail(MISPLACED, at);
             }
+            at++;
         }
 
         private boolean stands(char sign) {

@@ -43,6 +43,7 @@ public final class EdgeDeedsTest {
         promise16Since();
         promise16Times();
         promise16Whole();
+        promise16Eighth();
         turnsLate();
         turnsLast();
         Check.close();
@@ -637,6 +638,20 @@ public final class EdgeDeedsTest {
         x.draw();
         x.undo(1);
         Check.due("THE SEED stays", x.seed(0), Games.seedAfter(9, 1));
+    }
+
+    private static void promise16Eighth() {
+        Check.promise(16, "all of section 2 is as ahead of them: the eighth that is LAID, its BLANKS, too");
+        LetterTray x = Games.laid(Games.tray("aaaaaaaab*", "w0a;w0bb;"), 0, 7);
+        x.lay(1);
+        x.take(7);
+        x.lay(0);
+        Check.due("another eighth: laid(7, 0)", x.laid(7, 0), 0);
+        Check.due("undo(2)", x.undo(2), 13);
+        Check.due("laid(7, 0)", x.laid(7, 0), 1);
+        Check.due("laid(7, 1)", x.laid(7, 1), 2);
+        Check.due("undo(1)", x.undo(1), 7);
+        Check.due("laid(7, 0)", x.laid(7, 0), Check.UNKNOWN);
     }
 
     private static LetterTray doneAndUndone(ToIntFunction<LetterTray> deed) {

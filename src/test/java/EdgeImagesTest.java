@@ -23,6 +23,7 @@ public final class EdgeImagesTest {
         promise31Undone();
         promise31Stays();
         promise31Full();
+        promise31Eighth();
         Check.close();
     }
 
@@ -276,5 +277,23 @@ public final class EdgeImagesTest {
         Check.due("SCORE", x.told(6), 8);
         Check.due("draw()", x.draw(), Check.NOT);
         Check.due("take(0)", x.take(0), Check.FULL);
+    }
+
+    private static void promise31Eighth() {
+        Check.promise(31, "What is so becomes IMAGE i: the eighth that is LAID, its BLANKS, too");
+        LetterTray x = Games.laid(Games.tray("aaaaaaaab*", "w0a;w0bb;"), 0, 7);
+        x.lay(1);
+        x.keep(0);
+        x.take(7);
+        x.lay(0);
+        Check.due("another eighth: laid(7, 0)", x.laid(7, 0), 0);
+        Check.due("another eighth: laid(7, 1)", x.laid(7, 1), 0);
+        x.keep(1);
+        x.goBack(0);
+        Check.due("image 0: laid(7, 0)", x.laid(7, 0), 1);
+        Check.due("image 0: laid(7, 1)", x.laid(7, 1), 2);
+        x.goBack(1);
+        Check.due("image 1: laid(7, 0)", x.laid(7, 0), 0);
+        Check.due("image 1: laid(7, 1)", x.laid(7, 1), 0);
     }
 }

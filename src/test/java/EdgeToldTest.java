@@ -20,6 +20,7 @@ public final class EdgeToldTest {
         promise5Best();
         promise5All();
         promise5FromNow();
+        promise5FromNowAlike();
         promise5MostMany();
         promise5Unused();
         promise5Farthest();
@@ -157,6 +158,37 @@ public final class EdgeToldTest {
             x.lay(new int[] {0, 2, 1, 0}[i]);
         }
         Whole.alike("asked between deeds", () -> driftAsking(true), () -> driftAsking(false));
+    }
+
+    /** Trays alike in their number, their letters or in nothing: each is tried for itself. */
+    private static void promise5FromNowAlike() {
+        Check.promise(5, "TRIED from now: another TRAY of as many");
+        LetterTray x = Games.told(V + "bab;w0a;");
+        x.seed(Games.seedFor(2, 0));
+        Check.due("draw()", x.draw(), 0);
+        Check.due("ALL of a", x.told(10), 1);
+        Check.due("MOST of a", x.told(11), 1);
+        x.seed(Games.seedFor(2, 1));
+        Check.due("change(0)", x.change(0), 1);
+        Check.due("ALL of b", x.told(10), 0);
+        Check.due("MOST of b", x.told(11), 0);
+        Check.due("MANY of b", x.told(12), 0);
+        Check.due("first(0) of b", x.first(0), Check.NONE);
+        Check.promise(5, "TRIED from now: a BLANK more, a BLANK less");
+        x = Games.tray("a*", "w0ab;w0a;");
+        Check.due("MOST of a*", x.told(11), 4);
+        x.give(8);
+        Check.due("MOST of a", x.told(11), 1);
+        x.draw();
+        Check.due("MOST of a* again", x.told(11), 4);
+        Check.promise(5, "TRIED from now: of each one, then of none");
+        x = Games.tray("abcdefgh*", "w0a;");
+        Check.due("MOST", x.told(11), 2);
+        for (int letter = 0; letter <= 8; letter++) {
+            x.give(letter);
+        }
+        Check.due("MOST of none", x.told(11), 0);
+        Check.due("ALL of none", x.told(10), 1);
     }
 
     private static LetterTray driftAsking(boolean asking) {
@@ -379,6 +411,9 @@ public final class EdgeToldTest {
         x = Games.told(V + "w0ab;" + TEN_ONES.substring(0, 32) + "w0ba;");
         Check.due("bits 0 and 9", x.word(0, 4), 513);
         Check.due("bits 0 and 9", x.word(9, 4), 513);
+        x = Games.told(V + "w0gh;w0hg;w0gg;w0hh;");
+        Check.due("kin of gh, the last letter", x.word(0, 4), 3);
+        Check.due("kin of hh, the last letter", x.word(3, 4), 8);
     }
 
     private static void promise7Inside() {
@@ -390,6 +425,8 @@ public final class EdgeToldTest {
         Check.due("inside aaa", x.word(3, 5), 0b0000000110);
         Check.due("inside b: kin of none", x.word(9, 5), 0);
         Check.due("inside aba: its kin", x.word(7, 5), 0b1000110111);
+        x = Games.told(V + "w0hhg;w0h;w0hh;w0hhh;w0gg;");
+        Check.due("inside hhg, the last letter", x.word(0, 5), 6);
     }
 
     private static void promise7Odds() {
@@ -434,6 +471,11 @@ public final class EdgeToldTest {
         x.seed(Games.seedFor(6, 0));
         Check.due("draw()", x.draw(), 0);
         Check.due("b helps aab", x.word(1, 6), 400);
+        for (int letter = 0; letter <= 7; letter++) {
+            char sign = (char) ('a' + letter);
+            x = Games.told(V + "babcdefgh;w0" + sign + ";");
+            Check.due("odds of " + sign + " out of one of each", x.word(0, 6), 125);
+        }
     }
 
     private static void promise8Bounds() {

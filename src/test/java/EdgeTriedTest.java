@@ -195,6 +195,8 @@ public final class EdgeTriedTest {
         steps("abcdef", "fedcba", 1);
         steps("aabb", "bbaa", 1);
         steps("aabb", "bbab", Check.NONE);
+        steps("ggh", "hgg", 1);
+        steps("ggh", "hhg", Check.NONE);
     }
 
     private static void promise19Next() {
@@ -304,6 +306,9 @@ public final class EdgeTriedTest {
         rights("aaaaaa", "aaaaa", 5, 0);
         rights("aab", "baa", 1, 2);
         rights("aab", "abb", 2, 0);
+        rights("hg", "gh", 0, 2);
+        rights("ha", "bh", 0, 1);
+        rights("hhb", "hah", 1, 1);
         Check.promise(21, "RIGHT, MORE of a WORD, if it was thought of");
         LetterTray x = Games.told(V + "w0aabbcc;");
         Check.due("right(0, 0, 0)", x.right(0, 0, 0), 6);
