@@ -95,6 +95,12 @@ public final class EdgeSaidTest {
         x.tear();
         Check.due("say(0, 0, 0)", x.say(0, 0, 0), 1);
         Check.due("couldBe()", x.couldBe(), 8);
+        x.tear();
+        Check.due("say(3, 2, 0) of a word of one letter", x.say(3, 2, 0), 1);
+        Check.due("say(3, 6, 0) of a word of one letter", x.say(3, 6, 0), 2);
+        Check.due("say(3, 0, 2) of a word of one letter", x.say(3, 0, 2), 3);
+        Check.due("say(3, 0, 6) of a word of one letter", x.say(3, 0, 6), 4);
+        Check.due("couldBe()", x.couldBe(), 0);
     }
 
     private static void promise24Bounds() {

@@ -444,8 +444,16 @@ public final class EdgeToldTest {
         Check.promise(7, "6 ODDS: room on THE TABLE or not, in THE TRAY or not");
         x = Games.laid(Games.drawn(V + "b" + "a".repeat(21) + ";w0a;w0b;", 12), 0, 8);
         Check.due("a full table", x.word(0, 6), 1000);
-        x = Games.drawn(V + "b" + "a".repeat(13) + ";w0a;w0aaaaab;", 12);
-        Check.due("a full tray", x.word(1, 6), 0);
+        x = Games.told(V + "b" + "a".repeat(12) + "bc;w0a;w0b;w0c;w0d;w0bc;");
+        for (int left = 14; left > 2; left--) {
+            x.seed(Games.seedFor(left, 0));
+            Check.due("draw() of the first", x.draw(), 0);
+        }
+        Check.due("a full tray", x.told(4), 12);
+        int[] due = {1000, 500, 500, 0, 0};
+        for (int w = 0; w < due.length; w++) {
+            Check.due("a full tray: word(" + w + ", 6)", x.word(w, 6), due[w]);
+        }
         Check.promise(7, "6 ODDS with BLANKS in THE TRAY: one more than they are may be MISSING, not two");
         x = Games.tray("a*b", "w0ac;w0acd;w0acde;");
         x.give(1);
