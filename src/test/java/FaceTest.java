@@ -3,8 +3,10 @@ import java.lang.reflect.Method;
 import java.lang.reflect.Modifier;
 import java.nio.file.Files;
 import java.nio.file.Paths;
+import java.util.ArrayList;
 import java.util.Arrays;
 import java.util.HashSet;
+import java.util.List;
 import java.util.Set;
 import java.util.TreeSet;
 import java.util.regex.Matcher;
@@ -19,9 +21,13 @@ public final class FaceTest {
         "String.format", "Exact", "->", "::", "Random", "Thread", "protected", "transient", "volatile", "native", "hashCode",
         "toString", "@Override", "package"};
 
+    private static final Set<String> LIBRARY = Set.of("java.util", "Arrays.fill", "System.arraycopy", "Math.max", "Math.min",
+            "Integer.bitCount");
+
     public static void main(String[] args) throws Exception {
         constants();
         members();
+        fields();
         source(args);
         Check.close();
     }
@@ -61,6 +67,23 @@ public final class FaceTest {
         }
     }
 
+    /** Rules 2, 5 and 11: static state is final, few classes, few fields in each. */
+    private static void fields() {
+        List<Class<?>> classes = new ArrayList<>(Arrays.asList(LetterTray.class.getDeclaredClasses()));
+        classes.add(LetterTray.class);
+        Check.due("classes (" + classes.size() + ") are at most twelve", classes.size() <= 12 ? 1 : 0, 1);
+        for (Class<?> one : classes) {
+            int own = 0;
+            for (Field field : one.getDeclaredFields()) {
+                boolean isStatic = Modifier.isStatic(field.getModifiers());
+                own += isStatic ? 0 : 1;
+                Check.due(field + " is final if it is static", !isStatic || Modifier.isFinal(field.getModifiers()) ? 1 : 0, 1);
+            }
+            Check.due(one + " has at most twenty fields", own <= 20 ? 1 : 0, 1);
+            Check.due(one + " has classes inside", one == LetterTray.class ? 0 : one.getDeclaredClasses().length, 0);
+        }
+    }
+
     private static void source(String[] args) throws Exception {
         Check.due("the source is named", args.length, 1);
         if (args.length != 1) {
@@ -73,9 +96,38 @@ public final class FaceTest {
             Matcher matcher = Pattern.compile(bound + Pattern.quote(barred) + bound).matcher(code);
             Check.due("the code has '" + barred + "'", matcher.find() ? 1 : 0, 0);
         }
+        library(code);
+        lengths(source);
         for (int i = 0; i < source.length(); i++) {
             if (source.charAt(i) > 127) {
                 Check.due("a sign beyond 127 at " + i, source.charAt(i), 127);
+            }
+        }
+    }
+
+    /** Rule 4: what the code has of the library. */
+    private static void library(String code) {
+        Matcher imports = Pattern.compile("\\bimport ([^;]*);").matcher(code);
+        while (imports.find()) {
+            Check.due("import " + imports.group(1), imports.group(1).equals("java.util.Arrays") ? 1 : 0, 1);
+        }
+        Matcher used = Pattern.compile("\\b((?:java|javax)\\.\\w+|(?:System|Arrays|Math|Integer|Long|String|List|Objects)\\.\\w+)").matcher(code);
+        while (used.find()) {
+            Check.due("the code uses " + used.group(1), LIBRARY.contains(used.group(1)) ? 1 : 0, 1);
+        }
+    }
+
+    /** Rule 11: a method's first and last line stand alike far in, none other between them does. */
+    private static void lengths(String source) {
+        String[] lines = source.split("\n");
+        for (int start = 0; start < lines.length; start++) {
+            Matcher head = Pattern.compile("( +)(?:private|public) .*\\) \\{").matcher(lines[start]);
+            if (head.matches()) {
+                int end = start;
+                while (end < lines.length && !lines[end].equals(head.group(1) + "}")) {
+                    end++;
+                }
+                Check.due("lines of" + lines[start] + " are at most sixty", end - start < 60 ? 1 : 0, 1);
             }
         }
     }
